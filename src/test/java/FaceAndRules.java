@@ -94,6 +94,10 @@ public final class FaceAndRules {
                 open.add(method.getName());
             }
         }
+        for (Method method : SmokeGates.class.getDeclaredMethods()) {
+            need(!Modifier.isPrivate(method.getModifiers()) || !open.contains(method.getName()),
+                "a private method bears the name " + method.getName());
+        }
         List<Class<?>> all = new ArrayList<>(List.of(SmokeGates.class.getDeclaredClasses()));
         need(all.size() <= 11, "too many classes");
         for (Class<?> c : all) {
