@@ -1,24 +1,35 @@
 import java.io.IOException;
 import java.lang.reflect.InvocationTargetException;
 import java.lang.reflect.Method;
+import java.lang.reflect.Modifier;
 import java.nio.charset.StandardCharsets;
 import java.nio.file.Files;
 import java.nio.file.Path;
 import java.util.ArrayList;
 import java.util.HashSet;
 import java.util.List;
+import java.util.NoSuchElementException;
 import java.util.Set;
 import java.util.stream.Stream;
 
 /**
  * Runs of calls that stand as lines in src/test/runs/*.txt: "name arguments = answer".
- * "new" makes a new object; "## .." and "# .." are titles and remarks. An argument in quotes is a
- * text: it is fed first, and its length is the argument. A boolean counts 1 or 0; the answers
- * NoSuch and Illegal stand for NoSuchElementException and IllegalArgumentException.
+ *
+ * "new" and each title "## .." make a new object; "# .." is a remark. The answers NoSuch and Illegal
+ * stand for NoSuchElementException and IllegalArgumentException, a boolean counts 1 or 0, and ? takes
+ * any answer. "30 times: name arguments = answer" makes the same call that often.
+ *
+ * An argument in quotes is a text: it is fed first (the last twenty bytes filled with bytes 0), and
+ * its length is the argument; for feed the answer is the one of the last twenty bytes. In a text
+ * {9*gate 0;} stands for nine times what is behind the *, \x7b for the byte of that number.
  */
 public final class ScriptRuns {
+    private static final int MOST_CALLS = 512;
     private static final List<Method> FACE = new ArrayList<>();
     private static final Set<String> CALLED = new HashSet<>();
+    private static SmokeGates gates = new SmokeGates();
+    private static int calls = 0;
+    private static String title = "";
     private static int wrong = 0;
     private static int asked = 0;
 
@@ -26,12 +37,18 @@ public final class ScriptRuns {
     }
 
     public static void main(String[] args) throws IOException {
+        if (runAll(Path.of(args[0], "src", "test", "runs")) != 0) {
+            System.exit(1);
+        }
+    }
+
+    /** Plays all runs of a folder: how many faults there were. */
+    public static int runAll(Path folder) throws IOException {
         for (Method m : SmokeGates.class.getDeclaredMethods()) {
-            if (java.lang.reflect.Modifier.isPublic(m.getModifiers())) {
+            if (Modifier.isPublic(m.getModifiers())) {
                 FACE.add(m);
             }
         }
-        Path folder = Path.of(args[0], "src", "test", "runs");
         List<Path> files;
         try (Stream<Path> all = Files.list(folder)) {
             files = all.filter(p -> p.toString().endsWith(".txt")).sorted().toList();
@@ -44,10 +61,11 @@ public final class ScriptRuns {
                 fail("no run calls " + m.getName());
             }
         }
-        System.out.println(asked + " answers in " + files.size() + " files, " + wrong + " wrong");
-        if (wrong != 0 || asked == 0) {
-            System.exit(1);
+        if (asked == 0) {
+            fail("nothing was asked");
         }
+        System.out.println(asked + " answers in " + files.size() + " files, " + wrong + " wrong");
+        return wrong;
     }
 
     private static void fail(String what) {
@@ -55,64 +73,110 @@ public final class ScriptRuns {
         System.out.println(what);
     }
 
+    private static void begin() {
+        gates = new SmokeGates();
+        calls = 0;
+    }
+
     private static void runFile(Path file) throws IOException {
-        SmokeGates gates = new SmokeGates();
+        begin();
+        title = "";
         int number = 0;
         for (String line : Files.readAllLines(file, StandardCharsets.ISO_8859_1)) {
             number++;
-            if (line.isBlank() || line.startsWith("#")) {
-                continue;
+            if (line.startsWith("## ")) {
+                title = line.substring(3);
+                begin();
+            } else if (line.equals("new")) {
+                begin();
+            } else if (!line.isBlank() && !line.startsWith("#")) {
+                runLine(line, file.getFileName() + ":" + number);
             }
-            if (line.equals("new")) {
-                gates = new SmokeGates();
-                continue;
-            }
-            int split = line.lastIndexOf(" = ");
-            String want = line.substring(split + 3).trim();
-            String got = answer(gates, line.substring(0, split));
+        }
+    }
+
+    private static void runLine(String line, String where) {
+        int split = line.lastIndexOf(" = ");
+        String want = line.substring(split + 3).trim();
+        String call = line.substring(0, split);
+        int times = 1;
+        int behindTimes = call.indexOf(" times: ");
+        if (behindTimes >= 0) {
+            times = Integer.parseInt(call.substring(0, behindTimes));
+            call = call.substring(behindTimes + " times: ".length());
+        }
+        for (int i = 0; i < times; i++) {
+            String got = answer(call);
             asked++;
-            if (!got.equals(want)) {
-                fail(file.getFileName() + ":" + number + ": " + line + " -- answered " + got);
+            if (!want.equals("?") && !got.equals(want)) {
+                fail(where + ": " + line + " -- answered " + got + " (" + title + ")");
+                return;
             }
+        }
+        if (calls > MOST_CALLS) {
+            fail(where + ": more than " + MOST_CALLS + " calls of one object (" + title + ")");
         }
     }
 
-    private static String answer(SmokeGates gates, String call) {
+    private static String answer(String call) {
         int quote = call.indexOf('"');
-        String name = call.trim();
-        Object[] numbers;
         if (quote >= 0) {
-            name = call.substring(0, quote).trim();
-            String text = call.substring(quote + 1, call.lastIndexOf('"'));
-            feed(gates, text);
-            numbers = new Object[] {text.length()};
-        } else {
-            String[] words = name.split(" +");
-            name = words[0];
-            numbers = new Object[words.length - 1];
-            for (int i = 1; i < words.length; i++) {
-                numbers[i - 1] = Integer.valueOf(words[i]);
-            }
+            String name = call.substring(0, quote).trim();
+            String text = plain(call.substring(quote + 1, call.lastIndexOf('"')));
+            String last = feed(text);
+            return name.equals("feed") ? last : called(name, new Object[] {text.length()});
         }
-        return called(gates, name, numbers);
+        String[] words = call.trim().split(" +");
+        Object[] numbers = new Object[words.length - 1];
+        for (int i = 1; i < words.length; i++) {
+            numbers[i - 1] = Integer.valueOf(words[i]);
+        }
+        return called(words[0], numbers);
     }
 
-    private static void feed(SmokeGates gates, String text) {
+    /** A text with its {9*..} and \x7b written out. */
+    private static String plain(String written) {
+        StringBuilder out = new StringBuilder();
+        int i = 0;
+        while (i < written.length()) {
+            if (written.charAt(i) == '{') {
+                int star = written.indexOf('*', i);
+                int end = written.indexOf('}', i);
+                int times = Integer.parseInt(written.substring(i + 1, star));
+                out.append(plain(written.substring(star + 1, end)).repeat(times));
+                i = end + 1;
+            } else if (written.startsWith("\\x", i)) {
+                out.append((char) Integer.parseInt(written.substring(i + 2, i + 4), 16));
+                i += 4;
+            } else {
+                out.append(written.charAt(i));
+                i++;
+            }
+        }
+        return out.toString();
+    }
+
+    private static String feed(String text) {
+        String last = "";
         for (int from = 0; from < text.length(); from += 20) {
-            int[] five = new int[5];
-            for (int i = 0; i < 20; i++) {
-                int at = from + i;
-                int sign = at < text.length() ? text.charAt(at) & 255 : 0;
-                five[i / 4] = five[i / 4] << 8 | sign;
+            Object[] five = new Object[5];
+            for (int i = 0; i < 5; i++) {
+                int number = 0;
+                for (int at = from + 4 * i; at < from + 4 * i + 4; at++) {
+                    number = number << 8 | (at < text.length() ? text.charAt(at) & 255 : 0);
+                }
+                five[i] = number;
             }
-            gates.feed(five[0], five[1], five[2], five[3], five[4]);
+            last = called("feed", five);
         }
+        return last;
     }
 
-    private static String called(SmokeGates gates, String name, Object[] numbers) {
+    private static String called(String name, Object[] numbers) {
         for (Method m : FACE) {
             if (m.getName().equals(name) && m.getParameterCount() == numbers.length) {
                 CALLED.add(name);
+                calls++;
                 try {
                     Object got = m.invoke(gates, numbers);
                     return got instanceof Boolean b ? (b ? "1" : "0") : got.toString();
@@ -127,7 +191,7 @@ public final class ScriptRuns {
     }
 
     private static String thrown(Throwable e) {
-        if (e.getClass() == java.util.NoSuchElementException.class) {
+        if (e.getClass() == NoSuchElementException.class) {
             return "NoSuch";
         }
         return e.getClass() == IllegalArgumentException.class ? "Illegal" : e.toString();
